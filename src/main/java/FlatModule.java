@@ -103,9 +103,15 @@ public final class FlatModule {
     }
 
     public int check() {
-        int answer = checker.firstFault(functions);
-        checked = answer == 0;
-        return answer;
+        checked = false;
+        for (int f = 0; f < MOST_FUNCTIONS; f++) {
+            int fault = functions[f].there ? checker.firstFault(functions, f) : 0;
+            if (fault != 0) {
+                return 10000 * f + fault;
+            }
+        }
+        checked = true;
+        return 0;
     }
 
     public double run(int f, double x, double y, double z, int fuel) throws IllegalArgumentException,
@@ -183,7 +189,7 @@ public final class FlatModule {
             result = resultType;
             length = 0;
             for (int local = 0; local < locals; local++) {
-                types[local] = typeBits >> 2 * local & 3;
+                types[local] = (typeBits >> (2 * local)) & 3;
             }
         }
 
@@ -278,7 +284,7 @@ public final class FlatModule {
         private int fault;
         private final int[] types = new int[MOST_VALUES];
         private int height;
-        /** The code itself first, then the open frames. */
+        /** The code itself first, then the open frames: frames[open] is the innermost one. */
         private final Frame[] frames = new Frame[MOST_FRAMES + 1];
         private int open;
 
@@ -288,21 +294,9 @@ public final class FlatModule {
             }
         }
 
-        int firstFault(Function[] module) {
+        /** Answers 0, or 100 * the number of the instruction + the fault. */
+        int firstFault(Function[] module, int f) {
             functions = module;
-            for (int f = 0; f < functions.length; f++) {
-                if (functions[f].there) {
-                    int place = follow(f);
-                    if (fault != 0) {
-                        return 10000 * f + 100 * place + fault;
-                    }
-                }
-            }
-            return 0;
-        }
-
-        /** Answers the number of the instruction that it stopped at; the fault, if there is one, is in the field. */
-        private int follow(int f) {
             current = f;
             fault = 0;
             height = 0;
@@ -312,19 +306,15 @@ public final class FlatModule {
             for (int i = 0; i < subject().length; i++) {
                 instruction(subject().ops[i], subject().numbers[i]);
                 if (fault != 0) {
-                    return i;
+                    return 100 * i + fault;
                 }
             }
             endOfCode();
-            return subject().length;
+            return fault == 0 ? 0 : 100 * subject().length + fault;
         }
 
         private Function subject() {
             return functions[current];
-        }
-
-        private Frame innermost() {
-            return frames[open];
         }
 
         private void instruction(int op, int a) {
@@ -436,7 +426,7 @@ public final class FlatModule {
                     take(INT);
                     int branch = addRow(op, a);
                     openFrame(op, a);
-                    innermost().branch = branch;
+                    frames[open].branch = branch;
                     break;
                 case ELSE:
                     turnToElse();
@@ -456,12 +446,12 @@ public final class FlatModule {
             if (fault == 0) {
                 boolean live = isLive();
                 open++;
-                innermost().open(op, type, height, subject().flat.length, live);
+                frames[open].open(op, type, height, subject().flat.length, live);
             }
         }
 
         private void turnToElse() {
-            Frame frame = innermost();
+            Frame frame = frames[open];
             if (frame.kind != IF) {
                 fault = BAD_NESTING;
                 return;
@@ -481,7 +471,7 @@ public final class FlatModule {
                 fault = BAD_NESTING;
                 return;
             }
-            Frame frame = innermost();
+            Frame frame = frames[open];
             takeJustWhatIsGiven();
             if (fault == 0 && frame.kind == IF && frame.gives != NONE) {
                 fault = NO_ELSE;
@@ -504,8 +494,8 @@ public final class FlatModule {
         }
 
         private void takeJustWhatIsGiven() {
-            take(innermost().gives);
-            if (fault == 0 && height > innermost().base) {
+            take(frames[open].gives);
+            if (fault == 0 && height > frames[open].base) {
                 fault = TOO_MUCH_LEFT;
             }
         }
@@ -563,12 +553,12 @@ public final class FlatModule {
         }
 
         private void die() {
-            height = innermost().base;
-            innermost().dead = true;
+            height = frames[open].base;
+            frames[open].dead = true;
         }
 
         private boolean isLive() {
-            return innermost().openedInLiveCode && !innermost().dead;
+            return frames[open].openedInLiveCode && !frames[open].dead;
         }
 
         /** Dead code gets no row: no run needs it, and its stack has no places that registers could stand for. */
@@ -581,8 +571,8 @@ public final class FlatModule {
             if (fault != 0 || wanted == NONE) {
                 return wanted;
             }
-            if (height == innermost().base) {
-                if (!innermost().dead) {
+            if (height == frames[open].base) {
+                if (!frames[open].dead) {
                     fault = NO_VALUE;
                 }
                 return wanted;
@@ -890,25 +880,16 @@ public final class FlatModule {
                 // The outcome is endless, too, or no number at all, which arithmetic may not answer.
                 throw new ArithmeticException();
             }
-            double outcome = type == FLOAT ? floatOutcome(op, (float) a, (float) b) : doubleOutcome(op, a, b);
+            // Of FLOATs, too: a double has more than twice their digits, so that rounding twice is rounding once.
+            double outcome = fractionOutcome(op, a, b);
+            if (type == FLOAT) {
+                outcome = (float) outcome;
+            }
             trapIfTooLarge(outcome);
             return outcome;
         }
 
-        private static float floatOutcome(int op, float a, float b) {
-            switch (op) {
-                case ADD:
-                    return a + b;
-                case SUBTRACT:
-                    return a - b;
-                case MULTIPLY:
-                    return a * b;
-                default:
-                    return a / b;
-            }
-        }
-
-        private static double doubleOutcome(int op, double a, double b) {
+        private static double fractionOutcome(int op, double a, double b) {
             switch (op) {
                 case ADD:
                     return a + b;

@@ -1,3 +1,5 @@
+import java.util.Random;
+
 /** Promise 6: run() runs a checked function with fuel, calls and traps. */
 public final class RunTest {
     private static final double LIMIT = 1000000000.0;
@@ -8,6 +10,7 @@ public final class RunTest {
         parametersAndResult();
         wholeArithmetic();
         fractionArithmetic();
+        floatsAreRoundedOnce();
         comparisons();
         conversions();
         conversionsThatTrap();
@@ -170,6 +173,31 @@ public final class RunTest {
         dueTrap(Op.ADD, Op.DOUBLE, LIMIT, 0.0001);
         dueTrap(Op.MULTIPLY, Op.FLOAT, 1e38, 1e38);
         dueTrap(Op.MULTIPLY, Op.DOUBLE, 1e300, -1e300);
+    }
+
+    /** Floats of all sizes, made by chance with a fixed seed: each outcome is the one that Java's floats have. */
+    private static void floatsAreRoundedOnce() {
+        Random chance = new Random(1);
+        FlatModule[] modules = new FlatModule[4];
+        for (int i = 0; i < 4; i++) {
+            modules[i] = binary(Op.ADD + i, Op.FLOAT);
+        }
+        for (int i = 0; i < 40000; i++) {
+            float a = chanceFloat(chance);
+            float near = Math.scalb(1 + chance.nextFloat(), Math.getExponent(a) - i % 60);
+            float b = i % 2 == 0 ? chanceFloat(chance) : near;
+            float[] wants = {a + b, a - b, a * b, a / b};
+            for (int k = 0; k < 4; k++) {
+                FlatModule module = modules[k];
+                String want = Math.abs(wants[k]) <= LIMIT ? String.valueOf(wants[k] + 0.0) : Due.ARITHMETIC;
+                Due.same(a + " and " + b + " by " + k, Due.outcome(() -> module.run(0, a, b, 0, 3)), want);
+            }
+        }
+    }
+
+    private static float chanceFloat(Random chance) {
+        float value = Float.intBitsToFloat(chance.nextInt());
+        return Float.isFinite(value) ? value : 1;
     }
 
     private static void comparisons() {
