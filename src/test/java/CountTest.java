@@ -2,6 +2,7 @@
 public final class CountTest {
     public static void main(String[] args) {
         otherNumbers();
+        everyNumberInEveryState();
         functions();
         checked();
         fuelAndCalls();
@@ -14,6 +15,42 @@ public final class CountTest {
             Integer.MIN_VALUE + 10};
         for (int what : others) {
             Due.answers("count(" + what + ")", -1, () -> module.count(what));
+        }
+    }
+
+    private static void everyNumberInEveryState() {
+        Due.about("FUNCTIONS (0), .. INSTRUCTIONS of FUNCTION what - 10 (10 .. 13), 0 for none; else -1");
+        FlatModule module = new FlatModule();
+        dueCounts(module, 0, 0, 0, 0, 0, 0, 0, 0);
+        module.function(2, 0, 0, 0, Op.NONE);
+        dueCounts(module, 1, 0, 0, 0, 0, 0, 0, 0);
+        Build.code(module, 2, Build.repeat(40, Op.TRAP, 0));
+        dueCounts(module, 1, 0, 0, 0, 0, 0, 40, 0);
+        module.check();
+        dueCounts(module, 1, 1, 0, 0, 0, 0, 40, 0);
+        Due.fails("trap", Due.TRAPPED, () -> module.run(2, 0, 0, 0, 300));
+        dueCounts(module, 1, 1, 1, 1, 0, 0, 40, 0);
+        module.function(0, 0, 0, 0, Op.NONE);
+        Build.code(module, 0, Op.CALL, 2);
+        dueCounts(module, 2, 0, 1, 1, 1, 0, 40, 0);
+        module.check();
+        dueCounts(module, 2, 1, 1, 1, 1, 0, 40, 0);
+        Due.fails("trap in a call", Due.TRAPPED, () -> module.run(0, 0, 0, 0, 300));
+        dueCounts(module, 2, 1, 2, 2, 1, 0, 40, 0);
+        module.erase(2);
+        dueCounts(module, 2, 0, 2, 2, 1, 0, 0, 0);
+    }
+
+    /** Every number from -3 to 17: all but those of the document are -1. */
+    private static void dueCounts(FlatModule module, int... want) {
+        int[] known = {0, 1, 2, 3, 10, 11, 12, 13};
+        for (int what = -3; what <= 17; what++) {
+            int due = -1;
+            for (int i = 0; i < known.length; i++) {
+                due = known[i] == what ? want[i] : due;
+            }
+            int number = what;
+            Due.answers("count(" + what + ")", due, () -> module.count(number));
         }
     }
 

@@ -9,8 +9,14 @@ final class Due {
 
     private static int made = 0;
     private static int wrong = 0;
+    private static String sentence = "";
 
     private Due() {
+    }
+
+    /** Tells which words of the document the answers from here on are about. */
+    static void about(String words) {
+        sentence = "\"" + words + "\": ";
     }
 
     /** What a call answers, or the name of what it throws. */
@@ -27,7 +33,7 @@ final class Due {
         made++;
         if (!got.equals(want)) {
             wrong++;
-            System.out.println(what + " answered " + got + ", due is " + want);
+            System.out.println(sentence + what + " answered " + got + ", due is " + want);
         }
     }
 

@@ -4,6 +4,8 @@ public final class EmitTest {
         badComesFirst();
         anyOpAndNumber();
         noRoom();
+        upToForty();
+        everyOp();
         addedLast();
         changesWhatWasChecked();
         Due.end();
@@ -37,6 +39,43 @@ public final class EmitTest {
         Due.answers("runs without the 41st", 0, () -> module.run(0, 0, 0, 0, 40));
         module.function(1, 0, 0, 0, Op.NONE);
         Due.answers("room in another function", 1, () -> module.emit(1, Op.TRAP, 0));
+    }
+
+    private static void upToForty() {
+        Due.about("40 are there: no room. Answers how many there are");
+        for (int f = 0; f < 4; f++) {
+            int number = f;
+            FlatModule module = new FlatModule();
+            module.function(f, 0, 0, 0, Op.NONE);
+            for (int way = 0; way < 3; way++) {
+                Due.answers("none at first", 0, () -> module.count(10 + number));
+                for (int many = 1; many <= 40; many++) {
+                    Due.answers("the next", many, () -> module.emit(number, Op.BLOCK, Op.NONE));
+                }
+                Due.fails("the 41st", Due.STATE, () -> module.emit(number, Op.BLOCK, Op.NONE));
+                Due.fails("once more", Due.STATE, () -> module.emit(number, Op.TRAP, 0));
+                Due.answers("40 are there", 40, () -> module.count(10 + number));
+                if (way == 0) {
+                    module.erase(f);
+                } else {
+                    module.function(f, 0, 0, 0, Op.NONE);
+                }
+            }
+        }
+    }
+
+    private static void everyOp() {
+        Due.about("op 0 .. 30, any a");
+        for (int op = -3; op <= 33; op++) {
+            for (int a : new int[] {Integer.MIN_VALUE, -1, 0, 40, Integer.MAX_VALUE}) {
+                int o = op;
+                boolean allowed = op >= 0 && op <= 30;
+                FlatModule module = Build.simple(Op.NONE);
+                Due.same("emit of " + op + " with " + a, Due.outcome(() -> module.emit(0, o, a)),
+                        allowed ? "1.0" : Due.BAD);
+                Due.answers("then there are", allowed ? 1 : 0, () -> module.count(10));
+            }
+        }
     }
 
     private static void addedLast() {

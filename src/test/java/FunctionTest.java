@@ -3,9 +3,12 @@ public final class FunctionTest {
     public static void main(String[] args) {
         badNumbers();
         edgesOfTheNumbers();
+        everyNumberInRange();
+        typesOfEveryNumberOfLocals();
         typesAreTheLowestBits();
         higherBitsDoNotMatter();
         madeAnew();
+        fullOneMadeAnew();
         throwingChangesNothing();
         Due.end();
     }
@@ -32,6 +35,51 @@ public final class FunctionTest {
         Due.answers("six locals", 0, module::check);
         Build.code(module, 3, Op.GET, 6, Op.DROP, 0);
         Due.answers("no seventh", 30201, module::check);
+    }
+
+    private static void everyNumberInRange() {
+        Due.about("FUNCTION f (0 .. 3), n PARAMETERS (0 .. 3), m LOCALS (0 .. 3), result 0 .. 4");
+        for (int f = -1; f <= 4; f++) {
+            for (int n = -1; n <= 4; n++) {
+                for (int m = -1; m <= 4; m++) {
+                    for (int result = -1; result <= 5; result++) {
+                        dueToBeMade(f, n, m, result);
+                    }
+                }
+            }
+        }
+    }
+
+    private static void dueToBeMade(int f, int n, int m, int result) {
+        boolean allowed = f >= 0 && f <= 3 && n >= 0 && n <= 3 && m >= 0 && m <= 3 && result >= 0 && result <= 4;
+        FlatModule module = new FlatModule();
+        Due.same("function(" + f + ", " + n + ", " + m + ", 0, " + result + ")",
+                Due.outcome(Due.doing(() -> module.function(f, n, m, 0, result))), allowed ? "0.0" : Due.BAD);
+        Due.answers("functions then", allowed ? 1 : 0, () -> module.count(0));
+        if (allowed) {
+            Due.answers("result wanted", result == Op.NONE ? 0 : 10000 * f + 2, module::check);
+            Due.answers("it can have code", 1, () -> module.emit(f, Op.RETURN, 0));
+        }
+    }
+
+    private static void typesOfEveryNumberOfLocals() {
+        Due.about("whose TYPES, PARAMETERS first, are the lowest bits of types, two each");
+        int[] rows = {0, -1, 0b111001001110, 0b000110110001, Integer.MIN_VALUE, Integer.MAX_VALUE, ~0b111001001110};
+        for (int types : rows) {
+            for (int n = 0; n <= 3; n++) {
+                for (int m = 0; m <= 3; m++) {
+                    for (int local = 0; local < n + m; local++) {
+                        int type = types >>> 2 * local & 3;
+                        String what = "local " + local + " of " + n + " and " + m + ", types " + types;
+                        FlatModule module = Build.withLocals(n, m, types, type, Op.GET, local);
+                        Due.answers(what, 0, module::check);
+                        double given = local + 0.75;
+                        double want = local >= n ? 0 : type <= Op.LONG ? local : given;
+                        Due.answers(what + ", run", want, () -> module.run(0, 0.75, 1.75, 2.75, 1));
+                    }
+                }
+            }
+        }
     }
 
     private static void typesAreTheLowestBits() {
@@ -62,6 +110,30 @@ public final class FunctionTest {
         Due.answers("no result", 0, () -> module.run(0, 9, 0, 0, 1));
         Due.answers("first instruction", 1, () -> module.emit(0, Op.GET, 0));
         Due.answers("no locals any more", 1, module::check);
+    }
+
+    private static void fullOneMadeAnew() {
+        Due.about("FUNCTION f is there, without CODE");
+        FlatModule module = new FlatModule();
+        for (int f = 0; f < 4; f++) {
+            int number = f;
+            Due.answers("the next FUNCTION", 0, Due.doing(() -> module.function(number, 3, 3, -1, Op.NONE)));
+            Due.answers("how many", f + 1, () -> module.count(0));
+            Build.code(module, f, Build.repeat(40, Op.GET, f));
+        }
+        for (int f = 0; f < 4; f++) {
+            int number = f;
+            Due.answers("made anew", 0, Due.doing(() -> module.function(number, 0, 0, 0, Op.NONE)));
+            Due.answers("as many as before", 4, () -> module.count(0));
+            for (int other = 0; other < 4; other++) {
+                int o = other;
+                Due.answers("code of " + other, other <= f ? 0 : 40, () -> module.count(10 + o));
+            }
+            Due.answers("room again", 1, () -> module.emit(number, Op.BLOCK, Op.NONE));
+            Due.answers("and more", 2, () -> module.emit(number, Op.END, 0));
+            module.function(f, 0, 0, 0, Op.NONE);
+        }
+        Due.answers("all without fault", 0, module::check);
     }
 
     private static void throwingChangesNothing() {

@@ -179,10 +179,11 @@ public final class RunTest {
     private static void floatsAreRoundedOnce() {
         Random chance = new Random(1);
         FlatModule[] modules = new FlatModule[4];
-        for (int i = 0; i < 4; i++) {
-            modules[i] = binary(Op.ADD + i, Op.FLOAT);
-        }
         for (int i = 0; i < 40000; i++) {
+            for (int k = 0; k < 4 && i % 400 == 0; k++) {
+                // An object is used for 512 calls at most.
+                modules[k] = binary(Op.ADD + k, Op.FLOAT);
+            }
             float a = chanceFloat(chance);
             float near = Math.scalb(1 + chance.nextFloat(), Math.getExponent(a) - i % 60);
             float b = i % 2 == 0 ? chanceFloat(chance) : near;
