@@ -62,46 +62,20 @@ public final class CheckMirrorTest {
             int place = chance.nextInt(code.size());
             switch (chance.nextInt(4)) {
                 case 0 -> code.remove(place);
-                case 1 -> code.set(place, chanceInstruction(chance.nextInt(31)));
-                case 2 -> code.set(place, chanceInstruction(code.get(place)[0]));
+                case 1 -> code.set(place, CodeGrower.instruction(chance, chance.nextInt(31)));
+                case 2 -> code.set(place, CodeGrower.instruction(chance, code.get(place)[0]));
                 default -> code.add(place, code.remove(chance.nextInt(code.size())));
             }
         }
     }
 
-    /** Instructions by chance: one with a fault is taken back, but the wanted fault stays and is the last. */
     private void grow() {
         for (int f = 1; f < 4; f++) {
             if (parts[f] != null) {
                 parts[f].code().addAll(CodeMaker.make(chance, parts, f));
             }
         }
-        List<int[]> code = parts[0].code();
-        int wanted = chance.nextInt(8);
-        int favourite = chance.nextInt(Op.IF + 1);
-        int often = chance.nextInt(4);
-        for (int tries = 0; tries < 200 && code.size() < 40; tries++) {
-            boolean favoured = chance.nextInt(4) < often;
-            code.add(chanceInstruction(favoured ? favourite : chance.nextInt(31)));
-            int fault = CheckMirror.check(parts);
-            boolean isInTheLatest = fault > 0 && fault < 100 * code.size();
-            if (isInTheLatest && fault % 100 == wanted && tries > 10) {
-                return;
-            }
-            if (isInTheLatest) {
-                code.remove(code.size() - 1);
-            }
-        }
-    }
-
-    private int[] chanceInstruction(int op) {
-        int a = switch (chance.nextInt(8)) {
-            case 0 -> chance.nextInt();
-            case 1 -> -1;
-            case 2 -> chance.nextInt(20);
-            default -> op == Op.CONVERT ? chance.nextInt(16) : chance.nextInt(5);
-        };
-        return new int[] {op, a};
+        new CodeGrower(chance, parts).growUntil(chance.nextInt(8), 40);
     }
 
     private FlatModule write() {

@@ -12,7 +12,8 @@ public final class CheckedEdgesTest {
     }
 
     private static void smallestAndLargestAnswers() {
-        Due.about("10000 * its FUNCTION + 100 * the number of its INSTRUCTION (how many there are, at the end) + FAULT");
+        Due.about("10000 * its FUNCTION + 100 * the number of its INSTRUCTION (how many there are, at the end) "
+                + "+ FAULT");
         for (int f = 0; f < 4; f++) {
             for (int pairs = 0; pairs <= 20; pairs++) {
                 FlatModule module = new FlatModule();
@@ -37,7 +38,7 @@ public final class CheckedEdgesTest {
         FlatModule module = new FlatModule();
         for (int f = 3; f >= 0; f--) {
             module.function(f, 0, 0, 0, Op.NONE);
-            Build.code(module, f, Build.join(Build.repeat(f == 0 ? 20 : 1, Op.BLOCK, Op.NONE, Op.END, 0)));
+            Build.code(module, f, Build.repeat(f == 0 ? 20 : 1, Op.BLOCK, Op.NONE, Op.END, 0));
         }
         for (int f = 3; f >= 1; f--) {
             Build.code(module, f, Op.DROP, 0, Op.GET, 0, Op.ELSE, 0);

@@ -210,8 +210,8 @@ public final class FrameEdgesTest {
             due("more", 404, gives, opened, value, value, END);
             due("dead", 306, gives, opened, code(Op.TRAP, 0), END);
             due("with ELSE", 0, gives, opened, value, ELSE, value, END);
-            due("seen before there is no room", 2406, Op.NONE, Build.repeat(20, Op.CONST_INT, 1), code(Op.BLOCK, Op.NONE,
-                    Op.TRAP, 0, Op.IF, gives, Op.TRAP, 0), END);
+            due("seen before there is no room", 2406, Op.NONE, Build.repeat(20, Op.CONST_INT, 1),
+                    code(Op.BLOCK, Op.NONE, Op.TRAP, 0, Op.IF, gives, Op.TRAP, 0), END);
         }
         due("gives nothing", 0, Op.NONE, open(Op.IF, Op.NONE), END);
     }

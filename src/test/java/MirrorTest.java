@@ -3,10 +3,11 @@ import java.util.Random;
 
 /**
  * Many modules of code made by chance (with fixed seeds), run here and by the Mirror: answers, fuel, calls and globals
- * must agree. Some of the code is spoilt a little: if check() still finds no fault, every value must have its type.
+ * must agree. A third of the code is spoilt a little, a third has grown without a plan: if check() finds no fault in
+ * it, every value must have its type.
  */
 public final class MirrorTest {
-    private static final int MODULES = 6000;
+    private static final int MODULES = 9000;
 
     private final Random chance;
     private final Mirror mirror = new Mirror();
@@ -19,24 +20,30 @@ public final class MirrorTest {
     public static void main(String[] args) {
         int[] ends = new int[4];
         int spoiltWithoutFault = 0;
+        int grownWithoutFault = 0;
         for (int seed = 0; seed < MODULES; seed++) {
             MirrorTest test = new MirrorTest(seed);
             test.makeModule();
             boolean spoilt = seed % 3 == 0;
+            boolean grown = seed % 3 == 1;
             if (spoilt) {
                 test.spoil();
+            } else if (grown) {
+                test.growAnew();
             }
             test.write();
-            if (!spoilt) {
+            if (!spoilt && !grown) {
                 Due.answers("module " + seed + ": check()", 0, test.module::check);
             }
             if (test.module.check() == 0) {
                 spoiltWithoutFault += spoilt ? 1 : 0;
+                grownWithoutFault += grown ? 1 : 0;
                 test.compareRuns(seed, ends);
             }
         }
         // Were hardly any run to end well, or out of fuel, or in a trap, the comparison would say little.
         dueToBeMany("spoilt modules without fault", spoiltWithoutFault, 200);
+        dueToBeMany("grown modules without fault", grownWithoutFault, 1000);
         for (int end = 0; end < ends.length; end++) {
             dueToBeMany("runs that end in way " + end, ends[end], 1000);
         }
@@ -83,6 +90,13 @@ public final class MirrorTest {
                 }
             }
         }
+    }
+
+    private void growAnew() {
+        mirror.parts[0].code().clear();
+        CodeGrower grower = new CodeGrower(chance, mirror.parts);
+        grower.growUntil(0, 8 + chance.nextInt(12));
+        grower.finish();
     }
 
     private void write() {

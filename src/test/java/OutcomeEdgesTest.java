@@ -240,6 +240,12 @@ public final class OutcomeEdgesTest {
                 due(Op.DIVIDE, type, sign * above, above, sign);
             }
         }
+        due(Op.SUBTRACT, Op.DOUBLE, Double.MAX_VALUE, Double.MAX_VALUE, 0);
+        due(Op.SUBTRACT, Op.DOUBLE, -Double.MAX_VALUE, -Double.MAX_VALUE, 0);
+        due(Op.DIVIDE, Op.DOUBLE, -Double.MAX_VALUE, Double.MAX_VALUE, -1);
+        dueTrap(Op.ADD, Op.DOUBLE, Double.MAX_VALUE, Double.MAX_VALUE);
+        due(Op.SUBTRACT, Op.FLOAT, Float.MAX_VALUE, Float.MAX_VALUE, 0);
+        dueTrap(Op.MULTIPLY, Op.FLOAT, Float.MAX_VALUE, -Float.MAX_VALUE);
         Due.about("a FLOAT outcome (as a DOUBLE)");
         due(Op.ADD, Op.FLOAT, LIMIT, 32, LIMIT);
         dueTrap(Op.ADD, Op.FLOAT, LIMIT, 33);
