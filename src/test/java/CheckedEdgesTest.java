@@ -112,7 +112,7 @@ public final class CheckedEdgesTest {
     }
 
     private static void notChangedByOtherCalls() {
-        Due.about("till one is changed: what changes none leaves it CHECKED");
+        Due.about("till one is changed");
         FlatModule module = checkedOnes();
         module.global(0);
         module.count(0);
@@ -127,7 +127,7 @@ public final class CheckedEdgesTest {
     }
 
     private static void checkChangesNothingElse() {
-        Due.about("CHECKS the module (and does nothing else)");
+        Due.about("CHECKS the module");
         FlatModule module = checkedOnes();
         String before = Seen.of(module);
         Due.answers("check()", 0, module::check);

@@ -19,7 +19,8 @@ public final class CountTest {
     }
 
     private static void everyNumberInEveryState() {
-        Due.about("FUNCTIONS (0), .. INSTRUCTIONS of FUNCTION what - 10 (10 .. 13), 0 for none; else -1");
+        Due.about("FUNCTIONS (0), 1 if CHECKED, else 0 (1), FUEL used by the latest run (2), the deepest CALLS in it "
+                + "(3), INSTRUCTIONS of FUNCTION what - 10 (10 .. 13), 0 for none; else -1");
         FlatModule module = new FlatModule();
         dueCounts(module, 0, 0, 0, 0, 0, 0, 0, 0);
         module.function(2, 0, 0, 0, Op.NONE);

@@ -14,9 +14,13 @@ final class Due {
     private Due() {
     }
 
-    /** Tells which words of the document the answers from here on are about. */
+    /** Tells which words of the document the answers from here on are about: it must have just these. */
     static void about(String words) {
         sentence = "\"" + words + "\": ";
+        if (!Document.has(words)) {
+            wrong++;
+            System.out.println(sentence + "the document has no such words");
+        }
     }
 
     /** What a call answers, or the name of what it throws. */

@@ -132,7 +132,7 @@ public final class FrameEdgesTest {
     }
 
     private static void elseElsewhere() {
-        Due.about("ELSE elsewhere: 5");
+        Due.about("ELSE elsewhere");
         int[] nothing = code(Op.CONST_INT, 1, Op.IF, Op.NONE);
         due("in the CODE itself", 5, Op.NONE, ELSE);
         due("in a BLOCK", 105, Op.NONE, code(Op.BLOCK, Op.NONE), ELSE, END);
@@ -147,7 +147,7 @@ public final class FrameEdgesTest {
     }
 
     private static void endWithoutFrame() {
-        Due.about("END without FRAME: 5");
+        Due.about("END without FRAME");
         for (int open = 0; open <= 8; open++) {
             int[] frames = Build.repeat(open, Op.BLOCK, Op.NONE);
             due(open + " ended", 0, Op.NONE, frames, Build.repeat(open, Op.END, 0));
@@ -217,7 +217,7 @@ public final class FrameEdgesTest {
     }
 
     private static void emptiedBehindALeaver() {
-        Due.about("Behind 26, 28 and 30: the FRAME's stack is emptied");
+        Due.about("the FRAME's stack is emptied");
         for (int leaver : LEAVERS) {
             int[] leave = {leaver, 0};
             due("nothing left of two", 0, Op.NONE, Build.repeat(2, Op.CONST_LONG, 1), leave);
@@ -244,7 +244,7 @@ public final class FrameEdgesTest {
     }
 
     private static void deadUntilEnd() {
-        Due.about("until the FRAME's END");
+        Due.about("until the FRAME's ELSE or END");
         for (int leaver : LEAVERS) {
             for (int opener : OPENERS) {
                 int[] opened = open(opener, Op.NONE);
@@ -273,7 +273,7 @@ public final class FrameEdgesTest {
     }
 
     private static void aliveBehindOthers() {
-        Due.about("Behind 26, 28 and 30 (and no other INSTRUCTION)");
+        Due.about("Behind 26, 28 and 30");
         due("27", 202, Op.NONE, code(Op.CONST_INT, 1, Op.JUMP_IF, 0, Op.DROP, 0));
         FlatModule module = Build.simple(Op.NONE, Op.CALL, 1, Op.DROP, 0);
         module.function(1, 0, 0, 0, Op.NONE);
@@ -282,7 +282,7 @@ public final class FrameEdgesTest {
     }
 
     private static void mostFrames() {
-        Due.about("At most 8 FRAMES: FAULT 7");
+        Due.about("At most 8 FRAMES and 20 values: FAULT 7");
         for (int opener : OPENERS) {
             int[] seven = Build.repeat(7, Op.BLOCK, Op.NONE);
             int[] opened = open(opener, Op.NONE);
@@ -302,7 +302,7 @@ public final class FrameEdgesTest {
     }
 
     private static void mostValues() {
-        Due.about("At most 20 values: FAULT 7");
+        Due.about("At most 8 FRAMES and 20 values: FAULT 7");
         for (int type = 0; type < 4; type++) {
             int[] nineteen = Build.repeat(19, type, 1);
             int[] twenty = Build.repeat(20, type, 1);

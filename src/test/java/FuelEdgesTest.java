@@ -129,13 +129,13 @@ public final class FuelEdgesTest {
             Due.about("None left: OUT OF FUEL");
             Due.fails("a loop without end, " + fuel, Due.STATE, () -> endless.run(0, 0, 0, 0, given));
             Due.answers("used", fuel, () -> endless.count(2));
-            Due.about("GLOBALS set without FUEL stay so");
+            Due.about("GLOBALS set before a TRAP, or without FUEL, stay so");
             Due.answers("set with " + fuel, (fuel + 1) / 5, () -> endless.global(0));
         }
     }
 
     private static void fuelInCalls() {
-        Due.about("Each INSTRUCTION done takes one FUEL (in CALLS, too)");
+        Due.about("Each INSTRUCTION done takes one FUEL");
         FlatModule module = Build.simple(Op.INT, Op.CALL, 1, Op.CALL, 1, Op.ADD, Op.INT);
         module.function(1, 0, 0, 0, Op.INT);
         Build.code(module, 1, Op.BLOCK, Op.INT, Op.CONST_INT, 1, Op.END, 0, Op.CALL, 2, Op.ADD, Op.INT);
@@ -193,7 +193,7 @@ public final class FuelEdgesTest {
     }
 
     private static void callsOneAfterAnother() {
-        Due.about("CALLS within one another (not one after another)");
+        Due.about("CALLS within one another above 8");
         FlatModule module = Build.simple(Op.NONE, Build.repeat(40, Op.CALL, 3));
         module.function(3, 0, 0, 0, Op.NONE);
         Build.code(module, 3, Op.CALL, 2, Op.CALL, 2);
@@ -216,7 +216,7 @@ public final class FuelEdgesTest {
 
     /** Eight calls with 6 locals and up to 20 values each: what a call holds is not touched by the calls in it. */
     private static void fullWindows() {
-        Due.about("At most 20 values; CALLS within one another above 8");
+        Due.about("CALLS within one another above 8");
         for (int kept = 1; kept <= 8; kept++) {
             int[] values = Build.repeat(17, Op.GET, 0);
             int[] inner = {Op.GET, 0, Op.IF, Op.INT, Op.GET, 0, Op.CONST_INT, 1, Op.SUBTRACT, Op.INT, Op.CONST_INT, 90,

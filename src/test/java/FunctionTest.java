@@ -38,7 +38,7 @@ public final class FunctionTest {
     }
 
     private static void everyNumberInRange() {
-        Due.about("FUNCTION f (0 .. 3), n PARAMETERS (0 .. 3), m LOCALS (0 .. 3), result 0 .. 4");
+        Due.about("FUNCTION f (0 .. 3) is there, without CODE, with n PARAMETERS (0 .. 3) and m LOCALS (0 .. 3)");
         for (int f = -1; f <= 4; f++) {
             for (int n = -1; n <= 4; n++) {
                 for (int m = -1; m <= 4; m++) {
@@ -113,7 +113,7 @@ public final class FunctionTest {
     }
 
     private static void fullOneMadeAnew() {
-        Due.about("FUNCTION f is there, without CODE");
+        Due.about("FUNCTION f (0 .. 3) is there, without CODE");
         FlatModule module = new FlatModule();
         for (int f = 0; f < 4; f++) {
             int number = f;

@@ -23,7 +23,7 @@ public final class NumberEdgesTest {
         }
         Due.about("CONVERT: of TYPE a / 4 (a 0 .. 15) to TYPE a % 4");
         allowedUpTo(15, Op.CONVERT);
-        Due.about("BLOCK, LOOP, with TYPE a or 4 (what they give), IF, likewise");
+        Due.about("21 BLOCK, 22 LOOP, with TYPE a or 4 (what they give), 23 IF, likewise");
         for (int op : new int[] {Op.BLOCK, Op.LOOP, Op.IF}) {
             allowedUpTo(4, op);
         }
@@ -101,8 +101,7 @@ public final class NumberEdgesTest {
     }
 
     private static void numbersOfFrames() {
-        Due.about("JUMP to the a-th FRAME from the innermost, 0, on, the CODE itself being the outermost; "
-                + "no such FRAME: 1");
+        Due.about("JUMP to the a-th FRAME from the innermost, 0, on, the CODE itself being the outermost");
         for (int open = 0; open <= 8; open++) {
             int[] frames = Build.repeat(open, open % 2 == 0 ? Op.BLOCK : Op.LOOP, Op.NONE);
             int[] ends = Build.repeat(open, Op.END, 0);
@@ -144,7 +143,7 @@ public final class NumberEdgesTest {
     }
 
     private static void numbersThatAreFree() {
-        Due.about("emit: any a");
+        Due.about("op 0 .. 30, any a");
         for (int a : FREE) {
             for (int type = 0; type < 4; type++) {
                 Due.answers("a constant's number", 0, Build.simple(type, type, a)::check);

@@ -79,7 +79,7 @@ public final class OutcomeEdgesTest {
     }
 
     private static void wholesWrap() {
-        Due.about("ADD, SUBTRACT, MULTIPLY of INT and LONG, as Java's");
+        Due.about("11 ADD, 12 SUBTRACT, 13 MULTIPLY, 14 DIVIDE: two of TYPE a (0 .. 3): one");
         due(Op.ADD, Op.INT, MOST_INT, 0, MOST_INT);
         due(Op.ADD, Op.INT, MOST_INT, 1, LEAST_INT);
         due(Op.ADD, Op.INT, LEAST_INT, -1, MOST_INT);
@@ -126,7 +126,7 @@ public final class OutcomeEdgesTest {
     }
 
     private static void byZero() {
-        Due.about("By 0 or 0.0 (14, 15): ArithmeticException");
+        Due.about("By 0 or 0.0 (14, 15)");
         for (int type = 0; type < 4; type++) {
             for (double x : new double[] {0, 1, -1, 1e9, -1e9}) {
                 dueTrap(Op.DIVIDE, type, x, 0);
@@ -142,7 +142,7 @@ public final class OutcomeEdgesTest {
     }
 
     private static void byAlmostZero() {
-        Due.about("By 0 or 0.0 (and by nothing else)");
+        Due.about("By 0 or 0.0 (14, 15)");
         dueTrap(Op.DIVIDE, Op.INT, 1, 0.99);
         dueTrap(Op.DIVIDE, Op.LONG, 1, -0.99);
         due(Op.DIVIDE, Op.LONG, 5, 4294967296.0, 0);
@@ -172,7 +172,7 @@ public final class OutcomeEdgesTest {
     }
 
     private static void comparisons() {
-        Due.about("BELOW, EQUAL: two of TYPE a: an INT, 1 or 0");
+        Due.about("18 BELOW, 19 EQUAL: two of TYPE a: an INT, 1 or 0");
         double[] around = {-1, 0, 1};
         double[] least = {LEAST_INT, LEAST_LONG, -3e38, -1e300};
         for (int type = 0; type < 4; type++) {
@@ -218,7 +218,7 @@ public final class OutcomeEdgesTest {
     }
 
     private static void outcomesAtTheLimit() {
-        Due.about("a FLOAT or DOUBLE outcome of 11 to 14 above 1000000000.0 or below -1000000000.0 (as a DOUBLE)");
+        Due.about("a FLOAT or DOUBLE outcome of 11 to 14");
         for (int type = Op.FLOAT; type <= Op.DOUBLE; type++) {
             double above = type == Op.FLOAT ? Math.nextUp((float) LIMIT) : Math.nextUp(LIMIT);
             for (int sign = -1; sign <= 1; sign += 2) {
@@ -246,7 +246,7 @@ public final class OutcomeEdgesTest {
         dueTrap(Op.ADD, Op.DOUBLE, Double.MAX_VALUE, Double.MAX_VALUE);
         due(Op.SUBTRACT, Op.FLOAT, Float.MAX_VALUE, Float.MAX_VALUE, 0);
         dueTrap(Op.MULTIPLY, Op.FLOAT, Float.MAX_VALUE, -Float.MAX_VALUE);
-        Due.about("a FLOAT outcome (as a DOUBLE)");
+        Due.about("above 1000000000.0 or below -1000000000.0 (as a DOUBLE)");
         due(Op.ADD, Op.FLOAT, LIMIT, 32, LIMIT);
         dueTrap(Op.ADD, Op.FLOAT, LIMIT, 33);
         dueTrap(Op.ADD, Op.DOUBLE, LIMIT, 32);
@@ -269,7 +269,7 @@ public final class OutcomeEdgesTest {
             dueConvertTrap(Op.DOUBLE, Op.DOUBLE, sign * Math.nextUp(LIMIT));
             dueConvertTrap(Op.FLOAT, Op.FLOAT, sign * Math.nextUp((float) LIMIT));
             dueConvertTrap(Op.FLOAT, Op.DOUBLE, sign * Math.nextUp((float) LIMIT));
-            Due.about("CONVERT to FLOAT: what counts is the outcome");
+            Due.about("outcome of 11 to 14 or of CONVERT above 1000000000.0 or below -1000000000.0 (as a DOUBLE)");
             for (int from : new int[] {Op.INT, Op.LONG, Op.DOUBLE}) {
                 dueConverted(from, Op.FLOAT, sign * 1000000032.0, sign * LIMIT);
                 dueConvertTrap(from, Op.FLOAT, sign * 1000000033.0);
@@ -282,7 +282,7 @@ public final class OutcomeEdgesTest {
     }
 
     private static void noTrapElsewhere() {
-        Due.about("TRAPS (and none in other INSTRUCTIONS, nor of INT and LONG)");
+        Due.about("TRAPS");
         due(Op.ADD, Op.INT, LIMIT, LIMIT, 2e9);
         due(Op.MULTIPLY, Op.LONG, LIMIT, LIMIT, 1e18);
         due(Op.BELOW, Op.FLOAT, 1e30, 1e31, 1);
@@ -334,7 +334,7 @@ public final class OutcomeEdgesTest {
     }
 
     private static void castsOfConvert() {
-        Due.about("CONVERT, as Java's casts do");
+        Due.about("20 CONVERT: of TYPE a / 4 (a 0 .. 15) to TYPE a % 4, as Java's casts do");
         dueConverted(Op.LONG, Op.INT, MOST_INT, MOST_INT);
         dueConverted(Op.LONG, Op.INT, MOST_INT + 1, LEAST_INT);
         dueConverted(Op.LONG, Op.INT, LEAST_INT - 1, MOST_INT);
@@ -381,7 +381,7 @@ public final class OutcomeEdgesTest {
     }
 
     private static void globalsBeforeTraps() {
-        Due.about("GLOBALS set before a TRAP stay so");
+        Due.about("GLOBALS set before a TRAP, or without FUEL, stay so");
         int[][] traps = {{Op.TRAP, 0}, {0, 1, 0, 0, Op.DIVIDE, 0, Op.DROP, 0}, {1, 1, 1, 0, Op.REST, 1, Op.DROP, 0},
             {2, 1, 2, 0, Op.DIVIDE, 2, Op.DROP, 0}, {3, 1, 3, 0, Op.DIVIDE, 3, Op.DROP, 0},
             {3, 600000, 3, 600000, Op.MULTIPLY, 3, Op.DROP, 0}, {0, 2000000000, Op.CONVERT, 2, Op.DROP, 0}};

@@ -179,7 +179,7 @@ public final class RefusedCallTest {
         FlatModule twin = state.get();
         String before = Seen.of(module);
         DoubleSupplier call = () -> refused.call().applyAsDouble(module);
-        Due.about("\"Bad\" is IllegalArgumentException; it comes first. Not CHECKED, no room: IllegalStateException");
+        Due.about("it comes first. Not CHECKED, no room, OUT OF FUEL: IllegalStateException");
         Due.fails(refused.name(), refused.exception(), call);
         Due.about("What throws changes nothing");
         Due.same("what is seen behind " + refused.name(), Seen.of(module), before);

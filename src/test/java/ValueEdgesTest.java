@@ -118,7 +118,7 @@ public final class ValueEdgesTest {
     }
 
     private static void tooFew(Taker taker) {
-        Due.about("A value that is taken isn't there: FAULT 2");
+        Due.about("A value that is taken isn't there");
         for (int missing = 1; missing <= taker.takes().length; missing++) {
             int first = missing;
             Due.answers(taker + " without " + missing, 100 * (taker.takes().length - missing) + 2,
