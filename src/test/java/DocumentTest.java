@@ -366,7 +366,8 @@ public final class DocumentTest {
                 answer(sign * 1e9, type, type, 80000000, type, sign * 800, Op.MULTIPLY, type);
                 throwing(Due.ARITHMETIC, type, type, 80000000, type, sign * 801, Op.MULTIPLY, type);
                 answer(sign * 1e9, type, Op.CONST_INT, sign * 1000000000, Op.CONVERT, type);
-                throwing(Due.ARITHMETIC, type, Op.CONST_INT, sign * 1000000033, Op.CONVERT, type);
+                int above = type == Op.FLOAT ? 1000000033 : 1000000001;
+                throwing(Due.ARITHMETIC, type, Op.CONST_INT, sign * above, Op.CONVERT, type);
             }
         }
         Document.goOn("SHIFTS go by the lowest 5 bits (INT; LONG: 6).");
