@@ -3,8 +3,8 @@ import java.util.Arrays;
 import java.util.TreeSet;
 
 /**
- * Goes through the document from its first line to its last, sentence by sentence, and leaves none out: the words must
- * stand there in just this order, and some answers are compared for each. The edges are in other tests.
+ * Goes through the document from its first line up to "Not promised", sentence by sentence, and leaves none out: the
+ * words must stand there in just this order, and some answers are compared for each. The edges are in other tests.
  */
 public final class DocumentTest {
     public static void main(String[] args) {
